@@ -1,0 +1,206 @@
+import java.lang.reflect.Method;
+import java.lang.reflect.Modifier;
+import java.util.Arrays;
+import java.util.HashMap;
+import java.util.Map;
+
+/** Promises 1 to 34: runs of calls, each asked of FeatherHall and of PlainHall, which must answer alike. */
+public final class AgainstPlainTest {
+    /** Each call with the least and greatest of what each argument may be. */
+    private static final String[] CALLS = {
+        "kind 0:3 10:60 0:60 1:6", "broken 0:8", "flight 0:3 0:15 0:15 0:2", "over 0:3 0:15 0:15 1:60",
+        "player 0:7 1:20 0:2", "run 0:7 0:100", "rest 0:7 0:100", "slack 0:7 0:15 0:3 0:15 0:15",
+        "strike 0:15 0:7 0:15 0:1", "stand 0:7 0:15 0:1", "wins 0:7 0:7 0:15 0:15 1:4",
+        "rally 0:2", "three 0:5", "again",
+        "note -1:3 -1:3 0:1", "tally 0:3 0:3 0:3", "habit 0:3 0:3", "strongest",
+        "cost 0:1 0:99", "wear 0:3 0:9", "plan 0:3", "unplan", "costs 1:120", "change",
+        "courts 1:4", "come 0:7 0:99", "leave 0:7", "against 0:7", "round 0:3", "played", "had 0:7 0:7",
+        "of 0:7 0:4", "count 0:4"
+    };
+
+    /** What a run is made of, each call as often as it stands there; and how many such runs there are. */
+    private static final String[] THEMES = {
+        "40 kind broken flight flight flight flight over over over over",
+        "20 kind broken player run rest slack slack slack slack slack strike strike of of",
+        "8 kind broken player run rest strike strike stand of",
+        "1 kind player run rest wins wins wins wins wins wins wins wins wins wins wins wins",
+        "30 rally rally rally rally rally rally rally three three three three again",
+        "40 note note note note tally tally habit habit strongest count",
+        "20 cost wear plan plan plan plan costs costs costs change count unplan",
+        "40 courts come come come come leave against against round round round played played had of count",
+        "20 kind broken flight over player run rest slack rally three again note tally habit strongest cost wear "
+            + "plan unplan costs change courts come leave against round played had of count"
+    };
+
+    /** BROKEN, PACE and REACH of both, then the KINDS: found by a search for rallies that take several strikes. */
+    private static final int[][] SETTINGS = {
+        {0, 3, 2, 1, 2, 28, 55, 3, 42, 12, 5, 51, 4, 5, 23, 19, 4},
+        {1, 6, 2, 7, 1, 52, 24, 5, 41, 43, 5, 52, 48, 6, 56, 13, 5},
+        {3, 6, 1, 4, 1, 39, 0, 4, 34, 26, 1, 34, 44, 6, 44, 7, 3},
+        {0, 1, 2, 4, 2, 37, 39, 3, 45, 24, 5, 23, 30, 3, 43, 51, 3},
+        {2, 18, 1, 5, 0, 34, 29, 5, 27, 11, 2, 19, 37, 6, 11, 43, 5},
+        {5, 6, 1, 7, 0, 34, 19, 4, 29, 2, 4, 31, 27, 3, 11, 0, 6},
+        {3, 12, 2, 7, 1, 39, 56, 6, 40, 21, 5, 46, 5, 3, 40, 57, 4},
+        {2, 3, 1, 3, 1, 15, 12, 4, 57, 17, 2, 40, 54, 6, 43, 55, 4}
+    };
+
+    private static long seed = 1L;
+    private static final Map<String, Method> HALL = new HashMap<>();
+    private static final Map<String, Method> PLAIN = new HashMap<>();
+    private static final Map<String, String[]> SHAPES = new HashMap<>();
+
+    private static int next(int below) {
+        seed = seed * 6364136223846793005L + 1442695040888963407L;
+        return (int) ((seed >>> 33) % below);
+    }
+
+    private static int value(String range) {
+        int colon = range.indexOf(':');
+        int least = Integer.parseInt(range.substring(0, colon));
+        int most = Integer.parseInt(range.substring(colon + 1));
+        switch (next(60)) {
+            case 0:
+                return least - 1;
+            case 1:
+                return most + 1;
+            case 2:
+                return next(2) == 0 ? Integer.MIN_VALUE : Integer.MAX_VALUE;
+            case 3:
+            case 4:
+            case 5:
+                return least;
+            case 6:
+            case 7:
+            case 8:
+                return most;
+            default:
+                return least + next(most - least + 1);
+        }
+    }
+
+    private static Object[] arguments(String name) {
+        String[] shape = SHAPES.get(name);
+        Object[] arguments = new Object[shape.length - 1];
+        for (int i = 0; i < arguments.length; i++) {
+            int value = value(shape[i + 1]);
+            if (name.equals("note") && i == 2) {
+                arguments[i] = value > 0;
+            } else {
+                arguments[i] = value;
+            }
+        }
+        return arguments;
+    }
+
+    private static void ask(Check check, FeatherHall hall, PlainHall plain, String name, Object... arguments) {
+        try {
+            int got = (Integer) HALL.get(name).invoke(hall, arguments);
+            int want = (Integer) PLAIN.get(name).invoke(plain, arguments);
+            check.due(name + Arrays.toString(arguments), got, want);
+        } catch (ReflectiveOperationException problem) {
+            problem.printStackTrace(System.out);
+            check.holds(name + Arrays.toString(arguments) + " answered", false);
+        }
+    }
+
+    private static void runTheme(Check check, String theme) {
+        String[] words = theme.split(" ");
+        int runs = Integer.parseInt(words[0]);
+        for (int run = 0; run < runs; run++) {
+            FeatherHall hall = new FeatherHall();
+            PlainHall plain = new PlainHall();
+            for (int call = 0; call < 512; call++) {
+                String name = words[1 + next(words.length - 1)];
+                ask(check, hall, plain, name, arguments(name));
+            }
+        }
+    }
+
+    /** Habits that lean, so that some are past chance and some only nearly. */
+    private static void runLeaning(Check check) {
+        for (int run = 0; run < 60; run++) {
+            FeatherHall hall = new FeatherHall();
+            PlainHall plain = new PlainHall();
+            int lean = 2 + next(4);
+            for (int note = 0; note < 61; note++) {
+                int zone = next(4);
+                int kind = next(lean) == 0 ? next(4) : zone;
+                ask(check, hall, plain, "note", zone, kind, false);
+                ask(check, hall, plain, "strongest");
+                ask(check, hall, plain, "habit", zone, kind);
+                ask(check, hall, plain, "habit", next(4), next(4));
+            }
+        }
+    }
+
+    /** Rallies of which some are first won within 2, 3 and 4, from all CELLS; then ones taken by chance. */
+    private static void runRallies(Check check) {
+        int[] first = new int[6];
+        for (int[] setting : SETTINGS) {
+            rallies(check, setting, first);
+        }
+        for (int within = 1; within <= 5; within++) {
+            check.holds("some rally is first won within " + within + " (5: never)", first[within] > 0);
+        }
+        for (int run = 0; run < 12; run++) {
+            int[] setting = new int[17];
+            setting[0] = next(9);
+            for (int player = 0; player < 2; player++) {
+                setting[1 + 2 * player] = 1 + next(20);
+                setting[2 + 2 * player] = next(3);
+            }
+            for (int kind = 0; kind < 4; kind++) {
+                setting[5 + 3 * kind] = 10 + next(51);
+                setting[6 + 3 * kind] = next(61);
+                setting[7 + 3 * kind] = 1 + next(6);
+            }
+            rallies(check, setting, first);
+        }
+    }
+
+    private static void rallies(Check check, int[] setting, int[] first) {
+        FeatherHall hall = new FeatherHall();
+        PlainHall plain = new PlainHall();
+        ask(check, hall, plain, "broken", setting[0]);
+        ask(check, hall, plain, "player", 3, setting[1], setting[2]);
+        ask(check, hall, plain, "player", 5, setting[3], setting[4]);
+        for (int kind = 0; kind < 4; kind++) {
+            int at = 5 + 3 * kind;
+            ask(check, hall, plain, "kind", kind, setting[at], setting[at + 1], setting[at + 2]);
+        }
+        for (int cells = 0; cells < 256; cells++) {
+            int within = 1;
+            while (within < 5 && hall.wins(3, 5, cells / 16, cells % 16, within) == 0) {
+                within++;
+            }
+            first[within]++;
+            for (int n = 1; n <= 4; n++) {
+                ask(check, hall, plain, "wins", 3, 5, cells / 16, cells % 16, n);
+            }
+        }
+    }
+
+    public static void main(String[] args) {
+        Check check = new Check("AgainstPlainTest");
+        for (Method method : FeatherHall.class.getDeclaredMethods()) {
+            if (Modifier.isPublic(method.getModifiers())) {
+                HALL.put(method.getName(), method);
+            }
+        }
+        for (Method method : PlainHall.class.getDeclaredMethods()) {
+            if (!Modifier.isPrivate(method.getModifiers())) {
+                PLAIN.put(method.getName(), method);
+            }
+        }
+        for (String call : CALLS) {
+            String[] shape = call.split(" ");
+            SHAPES.put(shape[0], shape);
+        }
+        for (String theme : THEMES) {
+            runTheme(check, theme);
+        }
+        runLeaning(check);
+        runRallies(check);
+        check.finish();
+    }
+}
