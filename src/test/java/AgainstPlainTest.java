@@ -116,6 +116,26 @@ public final class AgainstPlainTest {
         }
     }
 
+    /** All FLIGHTS of the KINDS as at first, THE FEATHER whole and broken. */
+    private static void runAsAtFirst(Check check) {
+        FeatherHall hall = new FeatherHall();
+        PlainHall plain = new PlainHall();
+        for (int broken = 8; broken >= 0; broken--) {
+            ask(check, hall, plain, "broken", broken);
+            for (int flight = 0; flight < 1024; flight++) {
+                int kind = flight / 256;
+                int a = flight / 16 % 16;
+                int t = flight % 16;
+                for (int what = 0; what < 3; what++) {
+                    ask(check, hall, plain, "flight", kind, a, t, what);
+                }
+                for (int n = 1; n <= 6; n++) {
+                    ask(check, hall, plain, "over", kind, a, t, n);
+                }
+            }
+        }
+    }
+
     /** Habits that lean, so that some are past chance and some only nearly. */
     private static void runLeaning(Check check) {
         for (int run = 0; run < 60; run++) {
@@ -199,6 +219,7 @@ public final class AgainstPlainTest {
         for (String theme : THEMES) {
             runTheme(check, theme);
         }
+        runAsAtFirst(check);
         runLeaning(check);
         runRallies(check);
         check.finish();
