@@ -1,23 +1,5 @@
-import java.lang.reflect.Method;
-import java.lang.reflect.Modifier;
-import java.util.Arrays;
-import java.util.HashMap;
-import java.util.Map;
-
 /** Promises 1 to 34: runs of calls, each asked of FeatherHall and of PlainHall, which must answer alike. */
 public final class AgainstPlainTest {
-    /** Each call with the least and greatest of what each argument may be. */
-    private static final String[] CALLS = {
-        "kind 0:3 10:60 0:60 1:6", "broken 0:8", "flight 0:3 0:15 0:15 0:2", "over 0:3 0:15 0:15 1:60",
-        "player 0:7 1:20 0:2", "run 0:7 0:100", "rest 0:7 0:100", "slack 0:7 0:15 0:3 0:15 0:15",
-        "strike 0:15 0:7 0:15 0:1", "stand 0:7 0:15 0:1", "wins 0:7 0:7 0:15 0:15 1:4",
-        "rally 0:2", "three 0:5", "again",
-        "note -1:3 -1:3 0:1", "tally 0:3 0:3 0:3", "habit 0:3 0:3", "strongest",
-        "cost 0:1 0:99", "wear 0:3 0:9", "plan 0:3", "unplan", "costs 1:120", "change",
-        "courts 1:4", "come 0:7 0:99", "leave 0:7", "against 0:7", "round 0:3", "played", "had 0:7 0:7",
-        "of 0:7 0:4", "count 0:4"
-    };
-
     /** What a run is made of, each call as often as it stands there; and how many such runs there are. */
     private static final String[] THEMES = {
         "40 kind broken flight flight flight flight over over over over",
@@ -45,19 +27,15 @@ public final class AgainstPlainTest {
     };
 
     private static long seed = 1L;
-    private static final Map<String, Method> HALL = new HashMap<>();
-    private static final Map<String, Method> PLAIN = new HashMap<>();
-    private static final Map<String, String[]> SHAPES = new HashMap<>();
 
     private static int next(int below) {
         seed = seed * 6364136223846793005L + 1442695040888963407L;
         return (int) ((seed >>> 33) % below);
     }
 
-    private static int value(String range) {
-        int colon = range.indexOf(':');
-        int least = Integer.parseInt(range.substring(0, colon));
-        int most = Integer.parseInt(range.substring(colon + 1));
+    private static int value(Calls.Argument argument) {
+        int least = argument.least;
+        int most = argument.most;
         switch (next(60)) {
             case 0:
                 return least - 1;
@@ -78,29 +56,17 @@ public final class AgainstPlainTest {
         }
     }
 
-    private static Object[] arguments(String name) {
-        String[] shape = SHAPES.get(name);
-        Object[] arguments = new Object[shape.length - 1];
+    private static int[] arguments(String name) {
+        Calls.Argument[] shape = Calls.shape(name);
+        int[] arguments = new int[shape.length];
         for (int i = 0; i < arguments.length; i++) {
-            int value = value(shape[i + 1]);
-            if (name.equals("note") && i == 2) {
-                arguments[i] = value > 0;
-            } else {
-                arguments[i] = value;
-            }
+            arguments[i] = value(shape[i]);
         }
         return arguments;
     }
 
-    private static void ask(Check check, FeatherHall hall, PlainHall plain, String name, Object... arguments) {
-        try {
-            int got = (Integer) HALL.get(name).invoke(hall, arguments);
-            int want = (Integer) PLAIN.get(name).invoke(plain, arguments);
-            check.due(name + Arrays.toString(arguments), got, want);
-        } catch (ReflectiveOperationException problem) {
-            problem.printStackTrace(System.out);
-            check.holds(name + Arrays.toString(arguments) + " answered", false);
-        }
+    private static void ask(Check check, FeatherHall hall, PlainHall plain, String name, int... arguments) {
+        check.due(Calls.text(name, arguments), Calls.ask(hall, name, arguments), Calls.ask(plain, name, arguments));
     }
 
     private static void runTheme(Check check, String theme) {
@@ -145,7 +111,7 @@ public final class AgainstPlainTest {
             for (int note = 0; note < 61; note++) {
                 int zone = next(4);
                 int kind = next(lean) == 0 ? next(4) : zone;
-                ask(check, hall, plain, "note", zone, kind, false);
+                ask(check, hall, plain, "note", zone, kind, 0);
                 ask(check, hall, plain, "strongest");
                 ask(check, hall, plain, "habit", zone, kind);
                 ask(check, hall, plain, "habit", next(4), next(4));
@@ -202,20 +168,6 @@ public final class AgainstPlainTest {
 
     public static void main(String[] args) {
         Check check = new Check("AgainstPlainTest");
-        for (Method method : FeatherHall.class.getDeclaredMethods()) {
-            if (Modifier.isPublic(method.getModifiers())) {
-                HALL.put(method.getName(), method);
-            }
-        }
-        for (Method method : PlainHall.class.getDeclaredMethods()) {
-            if (!Modifier.isPrivate(method.getModifiers())) {
-                PLAIN.put(method.getName(), method);
-            }
-        }
-        for (String call : CALLS) {
-            String[] shape = call.split(" ");
-            SHAPES.put(shape[0], shape);
-        }
         for (String theme : THEMES) {
             runTheme(check, theme);
         }
