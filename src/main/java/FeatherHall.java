@@ -532,8 +532,11 @@ public final class FeatherHall {
             return 10 * rows + 5 * Math.abs(Court.colOf(a) - Court.colOf(t));
         }
 
-        // LENGTH, the divisor, is 10 at least for any two CELLS; Java cuts towards 0, hence towards COL a.
+        // LENGTH is 10 at least for any two CELLS; Java cuts towards 0, hence towards COL a.
         private static int placeAt(int a, int t, int length, int gone) {
+            if (length < 1) {
+                return NONE;
+            }
             int rows = Court.rowOf(a) + Court.rowOf(t) + 1;
             int row = rows * gone / length - Court.rowOf(a) - 1;
             if (row < 0) {

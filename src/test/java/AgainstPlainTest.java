@@ -82,21 +82,20 @@ public final class AgainstPlainTest {
         }
     }
 
-    /** All FLIGHTS of the KINDS as at first, THE FEATHER whole and broken. */
+    /** All FLIGHTS of the KINDS as at first, THE FEATHER whole and broken; a hall for each KIND and CELL. */
     private static void runAsAtFirst(Check check) {
-        FeatherHall hall = new FeatherHall();
-        PlainHall plain = new PlainHall();
-        for (int broken = 8; broken >= 0; broken--) {
-            ask(check, hall, plain, "broken", broken);
-            for (int flight = 0; flight < 1024; flight++) {
-                int kind = flight / 256;
-                int a = flight / 16 % 16;
-                int t = flight % 16;
-                for (int what = 0; what < 3; what++) {
-                    ask(check, hall, plain, "flight", kind, a, t, what);
-                }
-                for (int n = 1; n <= 6; n++) {
-                    ask(check, hall, plain, "over", kind, a, t, n);
+        for (int broken = 0; broken <= 8; broken++) {
+            for (int from = 0; from < 64; from++) {
+                FeatherHall hall = new FeatherHall();
+                PlainHall plain = new PlainHall();
+                ask(check, hall, plain, "broken", broken);
+                for (int t = 0; t < 16; t++) {
+                    for (int what = 0; what < 3; what++) {
+                        ask(check, hall, plain, "flight", from / 16, from % 16, t, what);
+                    }
+                    for (int n = 1; n <= 6; n++) {
+                        ask(check, hall, plain, "over", from / 16, from % 16, t, n);
+                    }
                 }
             }
         }
@@ -145,24 +144,31 @@ public final class AgainstPlainTest {
     }
 
     private static void rallies(Check check, int[] setting, int[] first) {
-        FeatherHall hall = new FeatherHall();
         PlainHall plain = new PlainHall();
-        ask(check, hall, plain, "broken", setting[0]);
-        ask(check, hall, plain, "player", 3, setting[1], setting[2]);
-        ask(check, hall, plain, "player", 5, setting[3], setting[4]);
+        for (int a = 0; a < 16; a++) {
+            FeatherHall hall = new FeatherHall();
+            set(hall, setting);
+            set(plain, setting);
+            for (int c = 0; c < 16; c++) {
+                int within = 1;
+                while (within < 5 && hall.wins(3, 5, a, c, within) == 0) {
+                    within++;
+                }
+                first[within]++;
+                for (int n = 1; n <= 4; n++) {
+                    ask(check, hall, plain, "wins", 3, 5, a, c, n);
+                }
+            }
+        }
+    }
+
+    private static void set(Object hall, int[] setting) {
+        Calls.ask(hall, "broken", setting[0]);
+        Calls.ask(hall, "player", 3, setting[1], setting[2]);
+        Calls.ask(hall, "player", 5, setting[3], setting[4]);
         for (int kind = 0; kind < 4; kind++) {
             int at = 5 + 3 * kind;
-            ask(check, hall, plain, "kind", kind, setting[at], setting[at + 1], setting[at + 2]);
-        }
-        for (int cells = 0; cells < 256; cells++) {
-            int within = 1;
-            while (within < 5 && hall.wins(3, 5, cells / 16, cells % 16, within) == 0) {
-                within++;
-            }
-            first[within]++;
-            for (int n = 1; n <= 4; n++) {
-                ask(check, hall, plain, "wins", 3, 5, cells / 16, cells % 16, n);
-            }
+            Calls.ask(hall, "kind", kind, setting[at], setting[at + 1], setting[at + 2]);
         }
     }
 

@@ -12,6 +12,7 @@ public final class EveningsEdgesTest {
         noOneInTwo();
         noOneThere();
         oneThere();
+        againstNoOne();
         waitedSinceItCame();
         waitedMostComesFirst();
         fewestGamesComeSecond();
@@ -197,6 +198,21 @@ public final class EveningsEdgesTest {
         rounds("two", x, 1, 2, 0, 0);
         CHECK.due("one GAME", x.played(), 1);
         waited("both played", x, 0, -1, -1, -1, -1, -1, -1, 0);
+    }
+
+    /** "Who plays PLAYER in BEST ROUND; NONE: no one. UNKNOWN." */
+    private static void againstNoOne() {
+        FeatherHall x = there(1, 5, 5, 5);
+        CHECK.due("plays", x.against(0), 1);
+        CHECK.due("plays", x.against(1), 0);
+        CHECK.due("is THERE, does not play", x.against(2), FeatherHall.NONE);
+        CHECK.due("is not THERE", x.against(3), FeatherHall.NONE);
+        CHECK.due("the last, not THERE", x.against(7), FeatherHall.NONE);
+        CHECK.due("no PLAYER -1", x.against(-1), FeatherHall.UNKNOWN);
+        CHECK.due("no PLAYER 8", x.against(8), FeatherHall.UNKNOWN);
+        x.leave(0);
+        CHECK.due("has left", x.against(0), FeatherHall.NONE);
+        CHECK.due("plays another", x.against(1), 2);
     }
 
     /** "How many ROUNDS a PLAYER that was THERE did not play since it came": "comes .. (WAITED 0)". */

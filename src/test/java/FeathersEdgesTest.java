@@ -255,7 +255,7 @@ public final class FeathersEdgesTest {
         CHECK.due("80 is 8", z.costs(11) - z.costs(10), 8);
     }
 
-    /** "A strike (ahead of its own WEAR) costs LOSS for each BROKEN". */
+    /** "A strike (ahead of its own WEAR) costs LOSS (..) for each BROKEN". */
     private static void aheadOfItsOwnWear() {
         FeatherHall x = planned(1, 99, new int[] {9, 9, 9, 9}, 0, 1);
         CHECK.due("the first costs none", x.costs(1), 1);

@@ -4,6 +4,7 @@ public final class FlightsEdgesTest {
 
     public static void main(String[] args) {
         cells();
+        kindsOfStrikes();
         kindsAtFirst();
         speed();
         drag();
@@ -72,6 +73,24 @@ public final class FlightsEdgesTest {
             CHECK.due("over, from 16", x.over(0, 16, a, 1), FeatherHall.UNKNOWN);
             CHECK.due("over, to -1", x.over(0, a, -1, 1), FeatherHall.UNKNOWN);
             CHECK.due("over, to 16", x.over(0, a, 16, 1), FeatherHall.UNKNOWN);
+        }
+    }
+
+    /** "KINDS of strikes are 0 .. 3". */
+    private static void kindsOfStrikes() {
+        FeatherHall x = new FeatherHall();
+        int[] beyond = {-1, 4, Integer.MIN_VALUE, Integer.MAX_VALUE};
+        for (int kind : beyond) {
+            CHECK.due("kind " + kind, x.kind(kind, 10, 0, 1), FeatherHall.UNKNOWN);
+            CHECK.due("kind " + kind + ", wrong numbers too", x.kind(kind, 9, 61, 7), FeatherHall.UNKNOWN);
+            CHECK.due("flight " + kind, x.flight(kind, 0, 0, 0), FeatherHall.UNKNOWN);
+            CHECK.due("flight " + kind + ", wrong what too", x.flight(kind, 0, 0, 3), FeatherHall.UNKNOWN);
+            CHECK.due("over " + kind, x.over(kind, 0, 0, 1), FeatherHall.UNKNOWN);
+            CHECK.due("over " + kind + ", wrong n too", x.over(kind, 0, 0, 61), FeatherHall.UNKNOWN);
+        }
+        int[] landing = {2, 5, 4, 3};
+        for (int kind = 0; kind < 4; kind++) {
+            CHECK.due("KIND " + kind + " is as before", x.flight(kind, 12, 15, 0), landing[kind]);
         }
     }
 

@@ -45,6 +45,13 @@ public final class PlayersEdgesTest {
             // TICK 1, one CELL far: of 3 CELLS one is run and one is in REACH.
             CHECK.due("REACH of " + player, x.slack(player, 12, 0, 0, 0), -1);
         }
+        // 10 * 190 / 200 = 9.5; PACE 9 would be 8, PACE 11 would be 10.
+        for (int player = 0; player < 8; player++) {
+            x.run(player, 10);
+            CHECK.due("PACE of " + player + " when TIRED", x.of(player, 0), 9);
+            x.rest(player, 10);
+            CHECK.due("PACE of " + player + " when RESTED", x.of(player, 0), 10);
+        }
         CHECK.due("no PLAYER -1", x.of(-1, 0), FeatherHall.UNKNOWN);
         CHECK.due("no PLAYER 8", x.of(8, 0), FeatherHall.UNKNOWN);
         for (int player = 0; player < 8; player++) {
@@ -93,7 +100,7 @@ public final class PlayersEdgesTest {
         }
     }
 
-    /** "TIRED grows by RUNNING: CELLS run (.. 100 at most)." */
+    /** "TIRED grows by RUNNING: CELLS run": "100 at most". */
     private static void tiredAtMost() {
         FeatherHall x = new FeatherHall();
         CHECK.due("99", x.run(3, 99), 99);
@@ -107,7 +114,7 @@ public final class PlayersEdgesTest {
         CHECK.due("at once", x.run(4, 100), 100);
     }
 
-    /** "RESTED it becomes less (0 at least ..)." */
+    /** "RESTED it becomes less (0 at least". */
     private static void tiredAtLeast() {
         FeatherHall x = new FeatherHall();
         CHECK.due("not TIRED, rests 0", x.rest(3, 0), 0);
@@ -214,6 +221,15 @@ public final class PlayersEdgesTest {
             x.player(0, 1, 0);
             for (int row = 0; row < 4; row++) {
                 CHECK.due("MEET " + meet + " from ROW " + row, x.slack(0, 4 * row, 0, 0, 12), slacks[meet - 1][row]);
+            }
+        }
+        // 11 8 6 4 3 2 2 2 2: over 4 in TICK 4, over 8 from TICK 5 on, in 12 in TICK 9.
+        int[][] ofMany = {{-2, -1, 0, 0}, {-1, 0, 0, 0}};
+        for (int meet = 5; meet <= 6; meet++) {
+            FeatherHall x = same(11, 20, meet);
+            x.player(0, 1, 0);
+            for (int row = 0; row < 4; row++) {
+                CHECK.due("MEET " + meet + " from ROW " + row, x.slack(0, 4 * row, 0, 0, 12), ofMany[meet - 5][row]);
             }
         }
         // STRIDE 20: 2 CELLS a TICK, so the last TICK is the best though it is farther.

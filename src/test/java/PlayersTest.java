@@ -140,24 +140,9 @@ public final class PlayersTest {
             CHECK.due("against one who can't run", x.wins(0, 1, 0, 0, n), 1);
             CHECK.due("against one who comes everywhere", x.wins(0, 2, 0, 0, n), 0);
         }
-        // BROKEN 0, PACE 3 and REACH 2 against 1 and 2: from some CELLS several strikes are needed.
-        FeatherHall y = new FeatherHall();
-        y.player(0, 3, 2);
-        y.player(1, 1, 2);
-        y.kind(0, 28, 55, 3);
-        y.kind(1, 42, 12, 5);
-        y.kind(2, 51, 4, 5);
-        y.kind(3, 23, 19, 4);
         int[] first = new int[6];
-        for (int cells = 0; cells < 256; cells++) {
-            int within = 1;
-            while (within < 5 && y.wins(0, 1, cells / 16, cells % 16, within) == 0) {
-                within++;
-            }
-            for (int n = within; n <= 4; n++) {
-                CHECK.due("won within fewer, won within more", y.wins(0, 1, cells / 16, cells % 16, n), 1);
-            }
-            first[within]++;
+        for (int a = 0; a < 16; a++) {
+            countFirstWon(a, first);
         }
         int[] want = {0, 184, 36, 12, 16, 8};
         for (int within = 1; within <= 5; within++) {
@@ -171,5 +156,26 @@ public final class PlayersTest {
         CHECK.due("n 0", x.wins(0, 1, 0, 0, 0), FeatherHall.OUTSIDE);
         CHECK.due("n 5", x.wins(0, 1, 0, 0, 5), FeatherHall.OUTSIDE);
         CHECK.due("p is q", x.wins(1, 1, 0, 0, 1), FeatherHall.OUTSIDE);
+    }
+
+    /** PACE 3 and REACH 2 against 1 and 2: from some CELLS several strikes are needed. */
+    private static void countFirstWon(int a, int[] first) {
+        FeatherHall y = new FeatherHall();
+        y.player(0, 3, 2);
+        y.player(1, 1, 2);
+        y.kind(0, 28, 55, 3);
+        y.kind(1, 42, 12, 5);
+        y.kind(2, 51, 4, 5);
+        y.kind(3, 23, 19, 4);
+        for (int c = 0; c < 16; c++) {
+            int within = 1;
+            while (within < 5 && y.wins(0, 1, a, c, within) == 0) {
+                within++;
+            }
+            for (int n = within; n <= 4; n++) {
+                CHECK.due("won within fewer, won within more", y.wins(0, 1, a, c, n), 1);
+            }
+            first[within]++;
+        }
     }
 }

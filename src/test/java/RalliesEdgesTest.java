@@ -2,7 +2,7 @@
 public final class RalliesEdgesTest {
     private static final Check CHECK = new Check("RalliesEdgesTest");
 
-    /** BROKEN; PACE, REACH, TIRED of p and of q; then SPEED, DRAG, MEET of the KINDS (of one for all, or of four). */
+    /** BROKEN; PACE, REACH, TIRED of p and of q; then SPEED, DRAG, MEET of the KINDS, the last told for all further. */
     private static final int[]
         ALIKE = {0, 20, 0, 0, 10, 2, 50, 50, 50, 6},
         QUICK = {0, 8, 2, 0, 1, 2, 0, 60, 20, 3},
@@ -23,6 +23,9 @@ public final class RalliesEdgesTest {
         netOfQ();
         whereToQComes();
         whereItMet();
+        cellZero();
+        strikeZero();
+        rowsAside();
         withinOneLess();
         numberOfStrikes();
         unlike();
@@ -38,7 +41,7 @@ public final class RalliesEdgesTest {
         x.player(q, setting[4], setting[5]);
         x.run(q, setting[6]);
         for (int kind = 0; kind < 4; kind++) {
-            int at = setting.length == 10 ? 7 : 7 + 3 * kind;
+            int at = Math.min(7 + 3 * kind, setting.length - 3);
             x.kind(kind, setting[at], setting[at + 1], setting[at + 2]);
         }
         return x;
@@ -144,6 +147,27 @@ public final class RalliesEdgesTest {
         for (int n = 1; n <= 4; n++) {
             due("p is not in b then", SHORT, 9, 1, n, 0);
         }
+    }
+
+    /** CELL 0 is a CELL as any: for d, for b and for c. */
+    private static void cellZero() {
+        due("q MEETS in 0", new int[] {0, 8, 2, 0, 4, 2, 0, 20, 10, 3, 55, 0, 3}, 3, 5, 2, 1);
+        due("p comes to 0", new int[] {0, 6, 2, 0, 1, 2, 0, 30, 50, 3, 30, 20, 2}, 0, 1, 2, 1);
+        due("q stands in 0", new int[] {0, 2, 2, 0, 8, 0, 0, 10, 50, 4, 25, 30, 3}, 12, 0, 2, 1);
+        due("0 alone is left, and does not hold", new int[] {0, 8, 0, 0, 4, 1, 0, 25, 25, 3, 15, 0, 4}, 8, 1, 2, 0);
+    }
+
+    /** KIND 0 to CELL 0 is a strike as any, of p and of q. */
+    private static void strikeZero() {
+        due("p needs it", new int[] {0, 9, 2, 0, 2, 2, 0, 35, 60, 4, 45, 10, 2}, 11, 1, 2, 1);
+        due("q takes it", new int[] {0, 10, 0, 0, 9, 1, 0, 40, 0, 4, 10, 40, 6}, 8, 1, 2, 0);
+    }
+
+    /** FAR goes by ROWS as by COLS: no CELL farther by ROW is within it. */
+    private static void rowsAside() {
+        due("from ROW 3", new int[] {0, 19, 0, 0, 5, 1, 0, 15, 20, 4, 15, 20, 4, 45, 15, 3}, 15, 6, 2, 1);
+        due("from ROW 2", new int[] {0, 20, 0, 0, 6, 1, 0, 15, 35, 6, 40, 20, 1}, 8, 5, 2, 1);
+        due("from ROW 3", new int[] {4, 10, 0, 0, 9, 1, 0, 50, 10, 5, 50, 10, 5, 50, 40, 6}, 13, 1, 2, 0);
     }
 
     /** "WINS within n less 1": not at once alone. */
