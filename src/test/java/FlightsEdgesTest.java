@@ -121,7 +121,7 @@ public final class FlightsEdgesTest {
         CHECK.due("KIND 3, SPEED not 39", x.flight(3, 0, 12, 0), 1);
         CHECK.due("KIND 3, SPEED not 41", x.flight(3, 8, 15, 0), 3);
         CHECK.due("KIND 3, MEET not 2", x.flight(3, 8, 15, 2), 1);
-        // BROKEN 1 of LENGTH 80, WHOLE 76: 20 18 16 14 are 68, 7 * 68 / 80 = 5.95 ROWS; of 85 KIND 3 has gone 40 and 33.
+        // BROKEN 1: of LENGTH 80 KIND 1 has gone 20 18 16 14, 7 * 68 / 80 = 5.95 ROWS; of 85 KIND 3 has gone 40 33.
         CHECK.due("none BROKEN at first", x.broken(1), 0);
         CHECK.due("KIND 1, DRAG not 4", x.over(1, 12, 14, 4), 5);
         CHECK.due("KIND 3, DRAG not 16", x.over(3, 12, 15, 2), 10);

@@ -361,6 +361,12 @@ public final class PlayersEdgesTest {
         CHECK.due("0 of several", x.stand(0, 0, 0), 0);
         CHECK.due("0 there", x.stand(0, 0, 1), 0);
         CHECK.due("not below in 5 either", x.strike(0, 0, 5, 1), 0);
+        // 2 CELLS a TICK and REACH 2: the soonest is the least, and 0 is one of nine in which it lacks nothing.
+        x.player(0, 20, 2);
+        CHECK.due("0 of nine", x.stand(0, 0, 0), 0);
+        CHECK.due("2 there", x.stand(0, 0, 1), 2);
+        CHECK.due("2 in the last of them", x.strike(0, 0, 10, 1), 2);
+        CHECK.due("1 beyond", x.strike(0, 0, 15, 1), 1);
     }
 
     /** "For all strikes from a that are not NET". */
